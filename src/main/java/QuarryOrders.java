@@ -947,7 +947,7 @@ public final class QuarryOrders {
     private int length = 0;
 
     private int at = 0;
-    private char kind = 0;
+    private int kind = 0;
     private final int[] numbers = new int[NUMBERS];
     private int found = 0;
     private boolean negative = false;
@@ -1004,7 +1004,7 @@ public final class QuarryOrders {
     }
 
     /** The kind of the order that was read last. */
-    char kind() {
+    int kind() {
       return kind;
     }
 
@@ -1034,7 +1034,7 @@ public final class QuarryOrders {
     }
 
     /** What follows the letter of an order: N is a number, D a digit, - a sign that may be missing, all else stands for itself. */
-    private static String partsOf(char kind) {
+    private static String partsOf(int kind) {
       switch (kind) {
         case 'q': return "NxNxN*N";
         case 'c': return "N.D@N";
@@ -1047,7 +1047,7 @@ public final class QuarryOrders {
       }
     }
 
-    private boolean readPart(char part) {
+    private boolean readPart(int part) {
       switch (part) {
         case 'N': return readNumber(3);
         case 'D': return readNumber(1);
@@ -1057,11 +1057,11 @@ public final class QuarryOrders {
     }
 
     /** The sign at which the reading stands; behind the text it is 0, which put() lets into no text. */
-    private char sign() {
+    private int sign() {
       return at >= 0 && at < length && at < signs.length ? signs[at] : 0;
     }
 
-    private boolean take(char sign) {
+    private boolean take(int sign) {
       if (sign() != sign) {
         return false;
       }

@@ -146,10 +146,10 @@ public final class TextsTest {
   /** The first order that returns an error ends it; what was carried out before stays. */
   private static void carryOutToAnError() {
     String[] errors = {"q0x1x1*20", "q1x1x1*19", "q1x1x1*999", "c9.0@1", "c0.3@1", "c0.0@0", "c0.0@300", "o0x1x1", "g0=9", "g0=1",
-        "l9.00", "l0.30", "l0.05", "l2.00", "n41", "n-41", "n999", "d0", "d3"};
+        "l9.00", "l0.30", "l0.05", "l0.21", "l2.00", "n41", "n-41", "n999", "d0", "d3"};
     for (String error : errors) {
       QuarryOrders x = new QuarryOrders();
-      Checks.type(x, "q10x10x10*20;q300x1x1*20;q9x9x9*20;o10x10x10;l2.01;l1.10;n5;" + error + ";n6");
+      Checks.type(x, "q10x10x10*20;q300x1x1*20;q9x9x9*20;o10x10x10;l2.21;l1.10;n5;" + error + ";n6");
       CHECKS.due("carryOut() with " + error, x.carryOut(), 7);
       CHECKS.due("nothing behind " + error + ", count(0)", x.count(0), 1);
       CHECKS.due("what was before stays, of(2, 5)", x.of(2, 5), 2);

@@ -88,6 +88,76 @@ public final class HistoryTest {
     CHECKS.due("of(0, 6)", x.of(0, 6), 3);
   }
 
+  /** All that is told of a quarry, but the pad and the history. */
+  private static String told(QuarryOrders x) {
+    StringBuilder all = new StringBuilder();
+    int blocks = x.count(1);
+    int orders = x.count(2);
+    for (int block = 0; block < blocks; block++) {
+      for (int what = 0; what < 11; what++) {
+        all.append(x.of(block, what)).append(' ');
+      }
+    }
+    for (int order = 0; order < orders; order++) {
+      for (int what = 0; what < 7; what++) {
+        all.append(x.ofOrder(order, what)).append(' ');
+      }
+    }
+    for (int lorry = 0; lorry < 3; lorry++) {
+      for (int what = 0; what < 8; what++) {
+        all.append(x.ofLorry(lorry, what)).append(' ');
+      }
+    }
+    for (int what = 0; what < 15; what++) {
+      all.append(x.count(what)).append(' ');
+    }
+    return all.toString();
+  }
+
+  private static int change(QuarryOrders x, int kind) {
+    switch (kind) {
+      case 0: return x.set(QuarryOrders.FROST, -9);
+      case 1: return x.quarry(9, 9, 9, 29);
+      case 2: return x.cut(0, 0, 10);
+      case 3: return x.shelter(0);
+      case 4: return x.order(7, 8, 9);
+      case 5: return x.give(0, 0);
+      case 6: return x.takeBack(1);
+      case 7: return x.limits(1, 1234, 2345, 3456);
+      case 8: return x.load(0, 2, 2);
+      case 9: return x.unload(1);
+      case 10: return x.leave(0);
+      case 11: return x.night(-30);
+      case 12: return x.restore(1);
+      default: x.put(Checks.packed("n-9;d0")); return x.carryOut();
+    }
+  }
+
+  /** Each change is undone whole, whatever states were recorded before. */
+  private static void undoBringsAllBack() {
+    for (int kind = 0; kind < 14; kind++) {
+      QuarryOrders x = new QuarryOrders();
+      x.save(1);
+      for (int block = 0; block < 2; block++) {
+        x.quarry(60, 50, 40, 25);
+        x.order(60, 50, 40);
+      }
+      x.give(1, 1);
+      x.load(1, 0, 2);
+      for (int price = 1; price < 9; price++) {
+        x.set(QuarryOrders.PRICE, price);
+      }
+      String before = told(x);
+      CHECKS.holds("change " + kind + " is possible", change(x, kind) >= 0);
+      CHECKS.holds("change " + kind + " changes something", !told(x).equals(before));
+      CHECKS.due("change " + kind + ", count(16)", x.count(16), 6);
+      CHECKS.due("change " + kind + ", undo()", x.undo(), 5);
+      CHECKS.holds("change " + kind + " is undone", told(x).equals(before));
+      x.undo();
+      CHECKS.due("the change before, count(11)", x.count(11), 7);
+    }
+  }
+
   private static void errorsRecordNothing() {
     QuarryOrders x = new QuarryOrders();
     x.quarry(60, 50, 40, 25);
@@ -198,6 +268,7 @@ public final class HistoryTest {
     undo();
     undoAndGoOn();
     whatRecords();
+    undoBringsAllBack();
     errorsRecordNothing();
     whatStays();
     save();

@@ -174,6 +174,11 @@ public final class OrdersTest {
     x.night(-3);
     CHECKS.due("the others are cracked, bestBlock(0)", x.bestBlock(0), 3);
     CHECKS.due("nothing changes, ofOrder(0, 3)", x.ofOrder(0, 3), 0);
+    QuarryOrders y = new QuarryOrders();
+    y.quarry(60, 50, 40, 25);
+    y.quarry(60, 50, 40, 25);
+    y.order(60, 50, 40);
+    CHECKS.due("the first of all blocks, bestBlock(0)", y.bestBlock(0), 0);
   }
 
   private static void fittingCut() {
@@ -205,6 +210,19 @@ public final class OrdersTest {
     CHECKS.due("the block belongs to an order, fittingCut(0, 2, 0)", x.fittingCut(0, 2, 0), NOT_POSSIBLE);
     x.shelter(0);
     CHECKS.due("under the roof, fittingCut(0, 0, 1)", x.fittingCut(0, 0, 1), 50);
+    QuarryOrders y = new QuarryOrders();
+    y.order(1, 1, 1);
+    y.quarry(1, 1, 4, 25);
+    CHECKS.due("of a length of 1, fittingCut(0, 0, 0)", y.fittingCut(0, 0, 0), 2);
+    CHECKS.due("of a length of 1, fittingCut(0, 0, 1)", y.fittingCut(0, 0, 1), 1);
+    y.order(300, 1, 1);
+    y.set(QuarryOrders.SAW, 0);
+    y.quarry(300, 1, 300, 25);
+    CHECKS.due("the longest cut would leave nothing, fittingCut(1, 1, 1)", y.fittingCut(1, 1, 1), 1);
+    y.order(299, 299, 1);
+    y.set(QuarryOrders.OVER, 0);
+    y.quarry(299, 1, 300, 25);
+    CHECKS.due("the longest cut, fittingCut(2, 2, 1)", y.fittingCut(2, 2, 1), 299);
   }
 
   private static void fittingCutErrors() {

@@ -136,11 +136,38 @@ public final class TextsTest {
     CHECKS.due("count(10)", x.count(10), 120);
     CHECKS.due("count(5)", x.count(5), 0b1100);
     CHECKS.due("count(0)", x.count(0), 3);
+    dueSizes(x, 0, 100, 100, 40);
+    dueSizes(x, 1, 100, 100, 40);
     CHECKS.due("undo()", x.undo(), 1);
     CHECKS.due("all of it is undone, count(0)", x.count(0), 1);
     CHECKS.due("all of it is undone, count(10)", x.count(10), 0);
     CHECKS.due("undo()", x.undo(), 0);
     CHECKS.due("all of it is undone, count(1)", x.count(1), 0);
+  }
+
+  private static void dueSizes(QuarryOrders x, int order, int... want) {
+    for (int what = 0; what < want.length; what++) {
+      CHECKS.due("ofOrder(" + order + ", " + what + ")", x.ofOrder(order, what), want[what]);
+    }
+  }
+
+  /** Each number of an order goes where the call has it. */
+  private static void numbers() {
+    QuarryOrders x = new QuarryOrders();
+    Checks.type(x, "o3x20x100;o7x9x8;q9x8x7*21;q1x1x1*20;q30x40x50*22;c2.1@11;g1=0;l1.24;l0.13");
+    CHECKS.due("carryOut()", x.carryOut(), 9);
+    dueSizes(x, 0, 100, 20, 3);
+    dueSizes(x, 1, 9, 8, 7);
+    CHECKS.due("of(0, 8)", x.of(0, 8), 1);
+    CHECKS.due("of(1, 9)", x.of(1, 9), 14);
+    CHECKS.due("of(0, 9)", x.of(0, 9), 8);
+    CHECKS.due("of(3, 1)", x.of(3, 1), 11);
+    CHECKS.due("of(4, 1)", x.of(4, 1), 27);
+    CHECKS.due("of(4, 10)", x.of(4, 10), 2);
+    Checks.type(x, "d1");
+    CHECKS.due("carryOut()", x.carryOut(), 1);
+    CHECKS.due("ofLorry(1, 7)", x.ofLorry(1, 7), 1);
+    CHECKS.due("ofLorry(2, 7)", x.ofLorry(2, 7), 0);
   }
 
   /** The first order that returns an error ends it; what was carried out before stays. */
@@ -188,6 +215,7 @@ public final class TextsTest {
     order();
     faults();
     carryOut();
+    numbers();
     carryOutToAnError();
     negativeNights();
     CHECKS.end();

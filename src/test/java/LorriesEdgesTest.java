@@ -242,6 +242,35 @@ public final class LorriesEdgesTest {
     EDGES.due("five of the heaviest, ofLorry(0, 2)", x.ofLorry(0, 2), Float.floatToIntBits(202500.0f));
   }
 
+  /** "3 lorries, 0 to 2, each with 5 places, 0 to 4": what is on one place, from the first to the last, is on no other lorry. */
+  private static void lorriesAlone() {
+    for (int spot = 0; spot < 15; spot++) {
+      int at = spot;
+      int place = spot % 5;
+      QuarryOrders x = Edges.made(y -> oneAt(y, at));
+      for (int lorry = 0; lorry < 3; lorry++) {
+        boolean there = lorry == spot / 5;
+        String how = "one at " + spot / 5 + ", " + place;
+        EDGES.due(how + Edges.call(", ofLorry", lorry, 0), x.ofLorry(lorry, 0), there ? 312 : 0);
+        EDGES.due(how + Edges.call(", ofLorry", lorry, 1), x.ofLorry(lorry, 1),
+            Float.floatToIntBits(there ? 312.0f * (float) (4 - place) / 4.0f : 0.0f));
+        EDGES.due(how + Edges.call(", ofLorry", lorry, 2), x.ofLorry(lorry, 2),
+            Float.floatToIntBits(there ? 312.0f * (float) place / 4.0f : 0.0f));
+        EDGES.due(how + Edges.call(", ofLorry", lorry, 3), x.ofLorry(lorry, 3), there ? 2 : 0);
+        EDGES.due(how + Edges.call(", why", lorry), x.why(lorry), there ? 0 : 1);
+        if (!there) {
+          EDGES.due(how + Edges.call(", bestPlace", 0, lorry), x.bestPlace(0, lorry), 3);
+          EDGES.due(how + Edges.call(", leave", lorry), x.leave(lorry), Edges.NOT_POSSIBLE);
+        }
+      }
+    }
+  }
+
+  private static void oneAt(QuarryOrders x, int spot) {
+    Edges.blocks(x, 2);
+    x.load(1, spot / 5, spot % 5);
+  }
+
   /** "Floats are answered by their bits": at each power of two that an axle can have, and at a quarter to either side. */
   private static void bits() {
     for (int kilograms = 1; kilograms <= 81000; kilograms *= 2) {
@@ -593,6 +622,7 @@ public final class LorriesEdgesTest {
     unloadRefused();
     ofLorryRefused();
     axles();
+    lorriesAlone();
     bits();
     fullQuarry();
     noSuchLorry();

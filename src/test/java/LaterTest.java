@@ -43,8 +43,10 @@ public final class LaterTest {
     steps.add(new Step("load(0, 1, 3)", x -> x.load(0, 1, 3), "l0.13"));
     steps.add(new Step("load(6, 0, 2)", x -> x.load(6, 0, 2), "l6.02"));
     steps.add(new Step("load(4, 0, 1)", x -> x.load(4, 0, 1), "l4.01"));
+    steps.add(new Step("load(6, 2, 0)", x -> x.load(6, 2, 0), "l6.20"));
     steps.add(new Step("leave(0)", x -> x.leave(0), "d0"));
     steps.add(new Step("leave(1)", x -> x.leave(1), "d1"));
+    steps.add(new Step("leave(2)", x -> x.leave(2), "d2"));
     steps.add(new Step("night(-5)", x -> x.night(-5), "n-5"));
     steps.add(new Step("night(3)", x -> x.night(3), "n3"));
     steps.add(new Step("night(41)", x -> x.night(41), "n41"));
@@ -171,7 +173,8 @@ public final class LaterTest {
     x.order(7, 8, 9);
     x.shelter(0);
     x.unload(5);
-    x.load(3, 2, 2);
+    x.load(6, 2, 2);
+    x.leave(2);
     x.limits(2, 100, 200, 300);
     x.leave(0);
     x.night(-40);
